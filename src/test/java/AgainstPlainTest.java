@@ -239,14 +239,14 @@ public final class AgainstPlainTest {
         same("allHome(" + n + ", 0)", x.allHome(n, 0), plain.howManyHome(n));
         same("allHome(" + n + ", 1)", x.allHome(n, 1), plain.together(n, -1));
         same("judge()", x.judge(), plain.judge(record));
-        switch (random.nextInt(12)) {
+        switch (random.nextInt(14)) {
             case 0, 1 -> same("bestLaw(" + n + ", -1)", x.bestLaw(n, -1), plain.bestLaw(n, -1));
             case 2, 3 -> same("bestLaw(" + n + ", " + s + ")", x.bestLaw(n, s), plain.bestLaw(n, s));
             case 4 -> same("lost()", x.lost(), plain.lost());
             case 5, 6 -> askCosts(k, n);
             case 7, 8 -> same("decree(" + n + ")", x.decree(n), plain.decree(n));
             case 9, 10 -> same("laws(" + s + ")", x.laws(s), s < 0 ? Due.UNKNOWN : plain.laws(s, ruts));
-            default -> askRanks(upTo(1, 40));
+            default -> askRanks(random.nextBoolean() ? 20 : 40);
         }
     }
 

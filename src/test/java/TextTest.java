@@ -9,6 +9,7 @@ public final class TextTest {
         mostOfAll();
         whatCityChanges();
         whatAFaultLeaves();
+        lettersOfAnEarlierText();
         Due.end();
     }
 
@@ -164,6 +165,7 @@ public final class TextTest {
         x.rut(0, 3, 1);
         x.write(0, 2);
         x.seed(77);
+        x.keep(0);
         x.keep(1);
         Due.feedAll(x, "c2 9;s1 0 3 2;k0 1 4 5 6;");
         Due.is("city() again", x.city(), 2);
@@ -177,6 +179,7 @@ public final class TextTest {
         Due.is("street(0, 4)", x.street(0, 4), 0);
         Due.is("cart(0, 3)", x.cart(0, 3), 5);
         Due.is("cart(0, 5)", x.cart(0, 5), 0);
+        Due.is("goBack(0): images are gone", x.goBack(0), Due.NOT);
         Due.is("goBack(1): images are gone", x.goBack(1), Due.NOT);
         Due.is("seed stays", x.seed(0), 77);
         Due.is("city() of nothing", x.city(), 0);
@@ -209,6 +212,28 @@ public final class TextTest {
         Due.is("goBack(0)", x.goBack(0), 1);
         Due.is("city() of nothing", x.city(), 0);
         Due.is("fault() of the latest", x.fault(), Due.NONE);
+    }
+
+    /** A text ends where it ends, whatever stood behind that in the text of an earlier city. */
+    private static void lettersOfAnEarlierText() {
+        endsAfter("c2 1;", "c2 1", 4);
+        endsAfter("c2 12;", "c2 1", 4);
+        endsAfter("c2 1 ;", "c2 1", 4);
+        endsAfter("c2 1;", "c2", 2);
+        endsAfter("c2 1;", "c", 1);
+        endsAfter("c2 1;s0 1 1 0;", "c2 1;s", 6);
+        endsAfter("c2 1;s0 1 1 0;", "c2 1;s0 1 1 ", 12);
+        DecreedStreets x = Due.of("c2 1;s0 1 1 0;");
+        Due.feedAll(x, "c2 1;");
+        Due.is("city()", x.city(), 2);
+        Due.is("told(1)", x.told(1), 0);
+    }
+
+    private static void endsAfter(String earlier, String text, int letter) {
+        DecreedStreets x = Due.of(earlier);
+        Due.feedAll(x, text);
+        Due.is("city() of '" + text + "' after '" + earlier + "'", x.city(), -11);
+        Due.is("fault() of '" + text + "' after '" + earlier + "'", x.fault(), letter);
     }
 
     private static void reads(String text, int corners) {

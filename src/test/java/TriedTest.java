@@ -5,6 +5,8 @@ public final class TriedTest {
         foreseen();
         bought();
         ranks();
+        ranksOfEachOrder();
+        ranksBehindEachChange();
         bestLaw();
         lost();
         costs();
@@ -124,6 +126,64 @@ public final class TriedTest {
         Due.is("ranks(30, -2)", x.ranks(30, -2), Due.UNKNOWN);
     }
 
+    /** Each has just the patience for his place, so one order alone brings all home. */
+    private static void ranksOfEachOrder() {
+        int orders = 0;
+        for (int code = 0; code < 5 * 5 * 5 * 5 * 5; code++) {
+            int[] place = {code % 5, code / 5 % 5, code / 25 % 5, code / 125 % 5, code / 625};
+            int seen = 0;
+            StringBuilder text = new StringBuilder("c2 9;s0 1 3 0;");
+            for (int k = 0; k < 5; k++) {
+                seen |= 1 << place[k];
+                text.append("k0 1 0 ").append(5 - k).append(' ').append(place[k]).append(';');
+            }
+            if (seen == 31) {
+                orders++;
+                DecreedStreets x = Due.of(text.toString());
+                Due.is("all home in " + text, x.ranks(50, -1), 3 + 4 + 5 + 6 + 7);
+                for (int k = 0; k < 5; k++) {
+                    Due.is("ranks(50, " + k + ") in " + text, x.ranks(50, k), 5 - place[k]);
+                }
+            }
+        }
+        Due.is("orders", orders, 120);
+    }
+
+    /** The same question again and again: what was found must not outlive what it was found for. */
+    private static void ranksBehindEachChange() {
+        DecreedStreets x = Due.of("c2 4;s0 1 3 0;k0 1 0 9 99;k0 1 0 1 0;k1 0 1 5 9;");
+        Due.is("at first", x.ranks(30, -1), 3 + 4 + 7);
+        x.law(0, 4);
+        Due.is("behind law", x.ranks(30, -1), 3 + 4 + 30);
+        x.law(0, 0);
+        x.keep(0);
+        Due.is("behind law again", x.ranks(30, -1), 3 + 4 + 7);
+        Due.is("ranks(30, 0)", x.ranks(30, 0), 1);
+        x.rank(0, 2);
+        x.rank(2, 2);
+        Due.is("behind rank: the rank of 1", x.ranks(30, 1), 2);
+        Due.is("behind rank: the rank of 0", x.ranks(30, 0), 1);
+        Due.is("behind rank, for one minute", x.ranks(1, 2), 2);
+        x.minute(1);
+        Due.is("behind minute: one has given up", x.ranks(30, -1), 3 + 31 + 6);
+        x.goBack(0);
+        Due.is("behind goBack", x.ranks(30, -1), 3 + 4 + 7);
+        x.drift(1);
+        Due.is("behind drift", x.ranks(30, -1), 3 + 31 + 6);
+        Due.feedAll(x, "c2 4;s0 1 3 2;k0 1 0 9 99;k1 0 0 1 0;");
+        x.city();
+        Due.is("behind city", x.ranks(30, -1), 3 + 30);
+        Due.is("behind city: of 0", x.ranks(30, 0), 1);
+        x.rank(1, 9);
+        x.minute(1);
+        x.goBack(0);
+        Due.feedAll(x, "c2 4;s0 1 3 2;k0 1 1 9 99;k1 0 1 1 99;k1 0 2 1 1;");
+        x.city();
+        Due.is("ahead of turn", x.ranks(30, -1), 4 + 7 + 30);
+        x.turn(0);
+        Due.is("behind turn", x.ranks(30, -1), 4 + 5 + 8);
+    }
+
     private static void bestLaw() {
         DecreedStreets x = Due.of("c2 5;s0 1 2 0;k1 0 0 1 99;k0 1 0 1 99;");
         Due.is("all laws but 1 and 4 are alike", x.bestLaw(30, -1), 0);
@@ -180,6 +240,13 @@ public final class TriedTest {
         x.turn(0);
         x.minute(1);
         Due.is("decree(99): somebody is ON it", x.decree(99), Due.NONE);
+        x = Due.of("c4 9;s0 1 9 2;s2 3 1 2;k0 1 0 1 99;k1 0 0 1 3;k2 3 0 1 99;k3 2 0 1 0;");
+        Due.is("as it is", x.allHome(60, 1), 9 + 60 + 1 + 60);
+        Due.is("the first helps by 51 - 9, the second by 59 - 1", x.decree(60), 1);
+        x = Due.of("c4 9;s2 3 1 2;s0 1 9 2;k0 1 0 1 99;k1 0 0 1 3;k2 3 0 1 99;k3 2 0 1 0;");
+        Due.is("the other way round", x.decree(60), 0);
+        x = Due.of("c4 9;s2 3 9 2;s0 1 9 2;k0 1 0 1 99;k1 0 0 1 3;k2 3 0 1 99;k3 2 0 1 0;");
+        Due.is("of like ones the least", x.decree(60), 0);
         x = Due.of("c2 9;s0 1 9 1;s0 1 8 4;k1 0 0 1 99;");
         Due.is("decree(99): laws that turn it back", x.decree(99), Due.NONE);
         Due.is("decree(1)", x.decree(1), Due.NONE);

@@ -6,6 +6,7 @@ public final class TriedTest {
         bought();
         ranks();
         ranksOfEachOrder();
+        ranksOfLikeOnes();
         ranksBehindEachChange();
         bestLaw();
         lost();
@@ -147,6 +148,28 @@ public final class TriedTest {
             }
         }
         Due.is("orders", orders, 120);
+        DecreedStreets x = Due.of("c2 9;s0 1 3 0;k0 1 0 1 0;k0 1 0 2 1;k0 1 0 3 2;k0 1 0 4 3;k0 1 0 5 4;k0 1 0 6 5;");
+        Due.is("the last of 720 orders", x.ranks(50, -1), 3 + 4 + 5 + 6 + 7 + 8);
+        for (int k = 0; k < 6; k++) {
+            Due.is("ranks(50, " + k + ")", x.ranks(50, k), 6 - k);
+        }
+    }
+
+    /** Ranks 2, 2, 1, 1, 1: the two without much patience have to get the greater ones. */
+    private static void ranksOfLikeOnes() {
+        for (int hurried = 0; hurried < 32; hurried++) {
+            if (Integer.bitCount(hurried) == 2) {
+                StringBuilder text = new StringBuilder("c2 9;s0 1 3 0;");
+                for (int k = 0; k < 5; k++) {
+                    text.append("k0 1 0 ").append(k < 2 ? 2 : 1).append((hurried >> k & 1) == 1 ? " 1;" : " 99;");
+                }
+                DecreedStreets x = Due.of(text.toString());
+                Due.is("all home in " + text, x.ranks(50, -1), 3 + 4 + 5 + 6 + 7);
+                for (int k = 0; k < 5; k++) {
+                    Due.is("ranks(50, " + k + ") in " + text, x.ranks(50, k), 1 + (hurried >> k & 1));
+                }
+            }
+        }
     }
 
     /** The same question again and again: what was found must not outlive what it was found for. */
@@ -161,9 +184,9 @@ public final class TriedTest {
         Due.is("ranks(30, 0)", x.ranks(30, 0), 1);
         x.rank(0, 2);
         x.rank(2, 2);
+        Due.is("behind rank, for one minute", x.ranks(1, 2), 2);
         Due.is("behind rank: the rank of 1", x.ranks(30, 1), 2);
         Due.is("behind rank: the rank of 0", x.ranks(30, 0), 1);
-        Due.is("behind rank, for one minute", x.ranks(1, 2), 2);
         x.minute(1);
         Due.is("behind minute: one has given up", x.ranks(30, -1), 3 + 31 + 6);
         x.goBack(0);

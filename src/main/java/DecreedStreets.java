@@ -930,8 +930,8 @@ public final class DecreedStreets {
         private int longest(int set) {
             int least = LATER;
             for (int k = 0; k < city.carts; k++) {
-                if ((set >> k & 1) == 1) {
-                    least = Math.min(least, since[k]);
+                if ((set >> k & 1) == 1 && since[k] < least) {
+                    least = since[k];
                 }
             }
             return least;
@@ -939,8 +939,13 @@ public final class DecreedStreets {
 
         /** The foremost goes by rank ahead of all else, so his is the greatest; 0 with nobody. */
         private int greatestRank(int set) {
-            int k = firstOf(set);
-            return k == NONE ? 0 : rank[k];
+            int greatest = 0;
+            for (int k = 0; k < city.carts; k++) {
+                if ((set >> k & 1) == 1 && rank[k] > greatest) {
+                    greatest = rank[k];
+                }
+            }
+            return greatest;
         }
 
         int firstOf(int set) {

@@ -4,6 +4,7 @@ public final class BoundsOfDeedsTest {
         aNewObject();
         feed();
         cityLeavesNothing();
+        citiesInARow();
         cityKeepsTheSeed();
         cityWithAFault();
         fault();
@@ -92,6 +93,43 @@ public final class BoundsOfDeedsTest {
         Due.is("far(0, 2)", x.far(0, 2), Due.UNKNOWN);
         Due.is("foremost(0, 0)", x.foremost(0, 0), Due.NONE);
         Due.is("minute(6)", x.minute(6), 1);
+    }
+
+    /** What the city ahead of the latest one had must not come again either. */
+    private static void citiesInARow() {
+        Due.saying("Promise 3", "becomes THE CITY (minute 0; no RUTS, no RECORD; IMAGES are gone; THE SEED stays): how many CORNERS");
+        DecreedStreets x = Due.of("c7 60;" + "s0 1 9 4;".repeat(9) + "k0 1 0 9 99;k1 0 0 9 99;k0 1 0 9 99;");
+        x.minute(1);
+        for (int s = 1; s < 9; s++) {
+            x.turn(s);
+        }
+        Due.feedAll(x, "c3 60;s0 1 1 4;s2 1 1 4;k1 0 0 9 99;k0 1 0 9 99;k0 1 0 9 99;");
+        Due.is("city()", x.city(), 3);
+        for (int s = 0; s < 2; s++) {
+            Due.is("street(" + s + ", 4)", x.street(s, 4), 0);
+            Due.is("street(" + s + ", 5)", x.street(s, 5), 0);
+            Due.is("foremost(" + s + ", 0)", x.foremost(s, 0), Due.NONE);
+            Due.is("foremost(" + s + ", 1)", x.foremost(s, 1), Due.NONE);
+        }
+        for (int k = 0; k < 3; k++) {
+            Due.is("cart(" + k + ", 8)", x.cart(k, 8), 0);
+            Due.is("cart(" + k + ", 7)", x.cart(k, 7), Due.NONE);
+        }
+        Due.is("told(9)", x.told(9), 0);
+        x.minute(1);
+        x.turn(1);
+        Due.is("city() of nothing", x.city(), 0);
+        int[] none = {0, 0, 0, 0, 0, 0, 0, 0, 0, 0, 0, 0};
+        for (int what = 0; what < 12; what++) {
+            Due.is("told(" + what + ") of nothing", x.told(what), none[what]);
+        }
+        Due.feedAll(x, "c2 1;");
+        Due.is("city() of corners alone", x.city(), 2);
+        int[] alone = {2, 0, 0, 1, 0, 0, 0, 0, 0, 0, 0, 0};
+        for (int what = 0; what < 12; what++) {
+            Due.is("told(" + what + ") of corners alone", x.told(what), alone[what]);
+        }
+        Due.is("far(0, 1)", x.far(0, 1), Due.NONE);
     }
 
     private static void cityKeepsTheSeed() {
@@ -190,6 +228,9 @@ public final class BoundsOfDeedsTest {
         Due.is("far(6, 5)", x.far(6, 5), 9);
         Due.is("far(0, 0)", x.far(0, 0), 0);
         Due.is("far(0, 6)", x.far(0, 6), Due.NONE);
+        DecreedStreets y = Due.of("c7 9;s0 1 1 4;s0 2 2 4;s6 3 3 4;s6 4 4 4;");
+        Due.is("far(1, 2): by the first corner", y.far(1, 2), 3);
+        Due.is("far(4, 3): by the last corner", y.far(4, 3), 7);
         Due.is("far(7, 6)", x.far(7, 6), Due.UNKNOWN);
         Due.is("far(6, 7)", x.far(6, 7), Due.UNKNOWN);
         Due.is("far(7, 7)", x.far(7, 7), Due.UNKNOWN);
@@ -328,6 +369,11 @@ public final class BoundsOfDeedsTest {
         Due.is("another street, B", x.foremost(1, 1), Due.NONE);
         x.minute(1);
         Due.is("nobody more at A", x.foremost(0, 0), Due.NONE);
+        DecreedStreets y = Due.of("c2 60;" + "s0 1 9 4;".repeat(8) + "s0 1 1 4;k1 0 0 1 99;k0 1 0 1 99;k0 1 0 1 99;");
+        y.minute(1);
+        Due.is("the last of nine, A", y.foremost(8, 0), 2);
+        Due.is("the last of nine, B", y.foremost(8, 1), 0);
+        Due.is("the last but one, A", y.foremost(7, 0), Due.NONE);
         Due.is("foremost(0, -1)", x.foremost(0, -1), Due.OUTSIDE);
         Due.is("foremost(0, 2)", x.foremost(0, 2), Due.OUTSIDE);
         Due.is("foremost(2, 0)", x.foremost(2, 0), Due.UNKNOWN);

@@ -156,10 +156,16 @@ public final class BoundsOfTrialsTest {
         Due.is("for that n, gone back", x.ranks(1, -1), 2);
         x.drift(2);
         Due.is("for that n, by draws", x.ranks(1, -1), 3 + 3);
+        x.minute(5);
+        Due.is("for that n, seven minutes later", x.ranks(1, -1), 5 + 3);
+        x.minute(1);
+        Due.is("for that n, a minute later", x.ranks(1, -1), 5 + 3);
         Due.feedAll(x, "c2 9;k0 1 0 4 0;");
         x.city();
         Due.is("another city", x.ranks(1, 0), 4);
         Due.is("another city, together", x.ranks(1, -1), 1);
+        x.minute(1);
+        Due.is("a minute later: he is at THE INN", x.ranks(1, -1), 2);
     }
 
     private static void bestLaw() {
@@ -227,6 +233,10 @@ public final class BoundsOfTrialsTest {
         Due.is("decree(300)", x.decree(300), 0);
         Due.is("street(0, 4): nothing changes", x.street(0, 4), 0);
         Due.is("without CORNERS", new DecreedStreets().decree(300), Due.NONE);
+        x = Due.of("c2 9;s1 0 9 2;k0 1 0 1 99;k1 0 0 1 3;");
+        Due.is("none is better", x.decree(60), Due.NONE);
+        x.turn(0);
+        Due.is("one that was turned, turned back", x.decree(60), 0);
         x = Due.of("c2 9;" + "s0 1 9 4;".repeat(8) + "s1 0 8 2;k1 0 0 1 99;k0 1 0 1 3;");
         Due.is("the last of nine", x.decree(60), 8);
     }

@@ -115,6 +115,10 @@ public final class BoundsOfTriedTest {
         Due.is("from B in the first", x.foreseen(1, 0, 10), 13);
         Due.is("from B in the last", x.foreseen(1, 0, 19), 22);
         Due.is("from B a minute later", x.foreseen(1, 0, 20), 33);
+        x = Due.of("c2 1;s0 1 3 1;");
+        Due.is("H 1, from A at an even minute", x.foreseen(0, 1, 2), 5);
+        Due.is("H 1, from A at an odd minute", x.foreseen(0, 1, 3), 7);
+        Due.is("H 1, from B at an even minute", x.foreseen(1, 0, 2), 6);
     }
 
     private static void foreseenMayWait() {
@@ -168,6 +172,9 @@ public final class BoundsOfTriedTest {
         Due.is("one bought does not hold till the hour", x.bought(0, 6, 53, 7), 6);
         Due.is("the last with the hour", x.bought(0, 6, 55, 6), 5);
         Due.is("at 60 all go", x.bought(0, 6, 60, 6), 0);
+        for (int b = 0; b <= 6; b++) {
+            Due.is("from A at 60 each entry is bought: " + b, x.bought(6, 6 - b, 60, b), b);
+        }
     }
 
     private static void boughtOfLawOneAlone() {
@@ -187,6 +194,14 @@ public final class BoundsOfTriedTest {
         Due.is("ranks(30, 0)", x.ranks(30, 0), 2);
         Due.is("ranks(30, 1)", x.ranks(30, 1), 2);
         Due.is("ranks(30, 2)", x.ranks(30, 2), 7);
+        x = Due.of("c2 9;s0 1 3 4;k0 1 0 1 0;k0 1 0 9 9;");
+        Due.is("of two the first has to go first", x.ranks(30, 0), 9);
+        Due.is("of two the second", x.ranks(30, 1), 1);
+        x = Due.of("c2 9;s0 1 3 4;k0 1 0 1 0;k0 1 0 2 1;k0 1 0 3 2;k0 1 0 4 3;k0 1 0 5 4;k0 1 0 6 5;");
+        Due.is("all HOME by the last of 720 alone", x.ranks(30, -1), 3 + 4 + 5 + 6 + 7 + 8);
+        for (int k = 0; k < 6; k++) {
+            Due.is("the last of 720: ranks(30, " + k + ")", x.ranks(30, k), 6 - k);
+        }
         x = Due.of("c2 9;s0 1 3 4;k0 1 0 4 0;");
         Due.is("one alone", x.ranks(30, 0), 4);
         Due.is("one alone, together", x.ranks(30, -1), 3);
@@ -203,6 +218,22 @@ public final class BoundsOfTriedTest {
         Due.is("the first has to go first", x.ranks(30, 0), 9);
         Due.is("of the others the lesser to the lesser", x.ranks(30, 1), 1);
         Due.is("ranks(30, 2)", x.ranks(30, 2), 5);
+        likeRanks();
+    }
+
+    /** RANKS 2, 2, 1, 1: the two that WAIT for less than two minutes have to get the greater ones. */
+    private static void likeRanks() {
+        for (int hurried : new int[] {3, 5, 6, 9, 10, 12}) {
+            StringBuilder text = new StringBuilder("c2 9;s0 1 3 4;");
+            for (int k = 0; k < 4; k++) {
+                text.append("k0 1 0 ").append(k < 2 ? 2 : 1).append((hurried >> k & 1) == 1 ? " 1;" : " 99;");
+            }
+            DecreedStreets x = Due.of(text.toString());
+            Due.is("all HOME in " + text, x.ranks(30, -1), 3 + 4 + 5 + 6);
+            for (int k = 0; k < 4; k++) {
+                Due.is("ranks(30, " + k + ") in " + text, x.ranks(30, k), 1 + (hurried >> k & 1));
+            }
+        }
     }
 
     private static void bestLawOfLikeOnes() {

@@ -7,6 +7,7 @@ public final class BoundsOfDeedsTest {
         citiesInARow();
         cityKeepsTheSeed();
         cityWithAFault();
+        theTextIsEmptyThen();
         fault();
         told();
         toldWithoutCorners();
@@ -167,6 +168,24 @@ public final class BoundsOfDeedsTest {
             Due.is("judge()", x.judge(), Due.NONE);
             Due.is("goBack(0)", x.goBack(0), 1);
             Due.is("goBack(1)", x.goBack(1), Due.NOT);
+        }
+    }
+
+    private static void theTextIsEmptyThen() {
+        Due.saying("Promise 3", "THE TEXT (it is empty then, with a FAULT, too) becomes THE CITY");
+        String full = "c2 1;" + " ".repeat(245);
+        String[] texts = {"", "  ", "c2 1;", "x", "c2 1;c", "c2 1;s0 0 1 0;", full, "x" + full.substring(1)};
+        int[] due = {0, 0, 2, -11, -13, -14, 2, -11};
+        for (int i = 0; i < texts.length; i++) {
+            DecreedStreets x = new DecreedStreets();
+            Due.feedAll(x, texts[i]);
+            Due.is("told(4) ahead, '" + texts[i] + "'", x.told(4), texts[i].length());
+            Due.is("city() of '" + texts[i] + "'", x.city(), due[i]);
+            Due.is("told(4) behind '" + texts[i] + "'", x.told(4), 0);
+            Due.feedAll(x, "c3 9;");
+            Due.is("told(4) of the next text", x.told(4), 5);
+            Due.is("city() of the next text alone", x.city(), 3);
+            Due.is("city() again: of nothing", x.city(), 0);
         }
     }
 

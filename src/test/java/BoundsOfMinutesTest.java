@@ -20,6 +20,7 @@ public final class BoundsOfMinutesTest {
         lawThreeOfLikeOnes();
         lawThreeWithNobodyOnOneSide();
         lawFour();
+        lawFourWithSomebodyOnIt();
         theForemostEnters();
         patience();
         patienceOfAllMinutes();
@@ -339,6 +340,26 @@ public final class BoundsOfMinutesTest {
         x.minute(1);
         Due.is("the next minute turns it back", x.street(0, 4), 0);
         Due.is("nobody has entered", x.told(7), 3);
+    }
+
+    private static void lawFourWithSomebodyOnIt() {
+        Due.saying("part 2", "nobody on one side: from the other one); 4: 0.");
+        DecreedStreets x = Due.of("c2 1;s0 1 3 0;k1 0 0 1 99;k1 0 1 1 99;k1 0 5 1 99;k0 1 2 9 99;");
+        x.minute(1);
+        Due.is("from B by LAW 0", x.street(0, 4), 1);
+        x.law(0, 4);
+        Due.is("the LAW alone turns nothing", x.street(0, 4), 1);
+        x.minute(3);
+        Due.is("one is ON it still: from B", x.street(0, 4), 1);
+        Due.is("who followed", x.street(0, 5), 2);
+        Due.is("HOME at A", x.told(6), 1);
+        x.minute(1);
+        Due.is("nobody is: from A", x.street(0, 4), 0);
+        Due.is("who enters", x.street(0, 5), 8);
+        Due.is("both HOME at A", x.told(6), 3);
+        x.minute(9);
+        Due.is("who WAITS at B for ever", x.told(8), 4);
+        Due.is("he came from A", x.told(6), 11);
     }
 
     private static void theForemostEnters() {

@@ -5,6 +5,8 @@ import java.lang.reflect.Modifier;
 import java.util.Random;
 import java.util.Set;
 import java.util.TreeSet;
+import java.util.regex.Matcher;
+import java.util.regex.Pattern;
 
 /** The public face: just the document's, and no call of it ever throws. */
 public final class FaceTest {
@@ -13,10 +15,33 @@ public final class FaceTest {
         "bestLaw2", "lost0", "costs2", "decree1", "rut3", "laws1", "write2", "tear0", "judge0", "seed1", "keep1", "goBack1"};
 
     public static void main(String[] args) throws ReflectiveOperationException {
+        theDocumentsFace();
         members();
         constants();
         anyArguments();
         Due.end();
+    }
+
+    /** The lists of this test are the document's, line by line. */
+    private static void theDocumentsFace() throws ReflectiveOperationException {
+        String face = Document.textOf("The public face");
+        Matcher call = Pattern.compile("public int (\\w+)\\(([^)]*)\\);").matcher(face);
+        int calls = 0;
+        for (; call.find(); calls++) {
+            int arguments = call.group(2).isEmpty() ? 0 : call.group(2).split(",").length;
+            boolean isListed = calls < METHODS.length && METHODS[calls].equals(call.group(1) + arguments);
+            Due.is("listed here: " + call.group(), isListed ? 1 : 0, 1);
+        }
+        Due.is("calls of the document's face", calls, METHODS.length);
+        Matcher constant = Pattern.compile("([A-Z]+) = (-\\d+)[,;]").matcher(face);
+        int constants = 0;
+        for (; constant.find(); constants++) {
+            Field field = DecreedStreets.class.getField(constant.group(1));
+            Due.is("constant " + constant.group(), field.getInt(null), Long.parseLong(constant.group(2)));
+            boolean isConstant = Modifier.isStatic(field.getModifiers()) && Modifier.isFinal(field.getModifiers());
+            Due.is("static and final: " + field, isConstant && field.getType() == int.class ? 1 : 0, 1);
+        }
+        Due.is("constants of the document's face", constants, 5);
     }
 
     private static void members() {
